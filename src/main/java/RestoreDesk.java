@@ -1024,16 +1024,18 @@ public final class RestoreDesk {
         /** The page that the record at a place writes or adds to; NONE: it changes none. */
         int changedAt(int line, int place) {
             int row = rowOf(line, place);
-            return row >= 0 && row < records && sorts[row] <= ADDED ? subjects[row] : NONE;
+            return hasRow(row) && sorts[row] <= ADDED ? subjects[row] : NONE;
         }
 
         int valueAs(int page, int line, int place) {
-            int end = Math.min(place, tipOf(line));
             int value = 0;
-            for (int at = 1; at <= end; at++) {
-                if (changedAt(line, at) == page) {
-                    int row = rowOf(line, at);
-                    value = sortIn(row) == WRITTEN ? amountIn(row) : value + amountIn(row);
+            for (int at = Math.min(place, tipOf(line)); at > 0; at--) {
+                int row = rowOf(line, at);
+                if (hasRow(row) && sorts[row] <= ADDED && subjects[row] == page) {
+                    value += amounts[row];
+                    if (sorts[row] == WRITTEN) {
+                        return value;
+                    }
                 }
             }
             return value;
@@ -1447,7 +1449,7 @@ public final class RestoreDesk {
             int at = 0;
             number = 0;
             // One token more than there may be is kept: the grammar tells whether it is of another fault first.
-            while (at < end && number <= MOST_TOKENS) {
+            for (int step = 0; step < MOST_BYTES && at < end && number <= MOST_TOKENS; step++) {
                 int sign = text[at] & 255;
                 if (isBlank(sign)) {
                     at++;

@@ -122,6 +122,12 @@ public final class CopiesTest {
         check.due("pages taken", desk.made(1, 3), 2);
         check.due("pages taken", desk.made(2, 3), 5);
         check.due("fit ones", desk.count(7), 7);
+        RestoreDesk longest = Check.deskOf("pages 1; write 0 3; copy; take 0 0; close 0; do 9; upon i; close i + 1; end;");
+        check.due("the longest chain", longest.made(9, 6), 10);
+        check.due("its page", longest.held(9, 0), 3);
+        check.due("its pages", longest.made(9, 4), 1);
+        check.due("all are fit", longest.count(7), 1023);
+        check.due("the longest chain is restored", longest.would(9, 0, 1), 0);
     }
 
     private static void fits() {
