@@ -123,9 +123,7 @@ public final class LanguageTest {
             check.due("new " + made.group(1), Set.of("Store", "Journal", "Copies", "Outlook", "Tokens", "Grammar",
                 "Runner", "StringBuilder", "int", "byte").contains(made.group(1)), true);
         }
-        for (int n = 0; n < code.length(); n++) {
-            check.due("sign " + n, code.charAt(n) > 127, false);
-        }
+        check.due("signs above 127", code.chars().filter(sign -> sign > 127).count(), 0);
     }
 
     private static void lengths(List<String> lines) {
