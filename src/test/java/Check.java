@@ -1,8 +1,11 @@
 import java.nio.charset.StandardCharsets;
+import java.util.function.Supplier;
+import java.util.function.ToLongFunction;
 
 /** What the tests share: answers that are due, and texts put on the tape. */
 final class Check {
     private final String test;
+    private String words = "";
     private int asked;
     private int wrong;
 
@@ -10,16 +13,54 @@ final class Check {
         this.test = test;
     }
 
+    /** The words of the document by which the answers that follow are due (DocumentTest reads them, too). */
+    void words(String ofTheDocument) {
+        words = " (" + ofTheDocument + ")";
+    }
+
     void due(String what, long got, long want) {
         asked++;
         if (got != want) {
             wrong++;
-            System.out.println(test + ": " + what + " answered " + got + ", due is " + want);
+            System.out.println(test + words + ": " + what + " answered " + got + ", due is " + want);
         }
     }
 
     void due(String what, boolean got, boolean want) {
         due(what, got ? 1 : 0, want ? 1 : 0);
+    }
+
+    void dueName(String what, String got, String want) {
+        asked++;
+        if (!got.equals(want)) {
+            wrong++;
+            System.out.println(test + words + ": " + what + " answered '" + got + "', due is '" + want + "'");
+        }
+    }
+
+    /** A call that answers so, and behind which all is as it was. */
+    void nothing(String what, Supplier<RestoreDesk> made, ToLongFunction<RestoreDesk> call, long want) {
+        due(what, call.applyAsLong(made.get()), want);
+        unchanged(what, made, call);
+    }
+
+    void unchanged(String what, Supplier<RestoreDesk> made, ToLongFunction<RestoreDesk> call) {
+        same(what + ", and nothing happens", Picture.of(() -> {
+            RestoreDesk desk = made.get();
+            call.applyAsLong(desk);
+            return desk;
+        }), Picture.of(made));
+    }
+
+    /** Two pictures are the same; else the first line that is not is told. */
+    void same(String what, String got, String want) {
+        String[] gotLines = got.split("\n");
+        String[] wantLines = want.split("\n");
+        int at = 0;
+        while (at < gotLines.length && at < wantLines.length && gotLines[at].equals(wantLines[at])) {
+            at++;
+        }
+        dueName(what, at < gotLines.length ? gotLines[at] : "", at < wantLines.length ? wantLines[at] : "");
     }
 
     /** Ends the test: with exit code 1 if an answer was not the one that is due. */
@@ -28,6 +69,10 @@ final class Check {
         if (wrong != 0 || asked == 0) {
             System.exit(1);
         }
+    }
+
+    static long bit(boolean answer) {
+        return answer ? 1 : 0;
     }
 
     static void put(RestoreDesk desk, String text) {
@@ -69,13 +114,5 @@ final class Check {
             name.append((char) sign);
         }
         return name.toString();
-    }
-
-    void dueName(String what, String got, String want) {
-        asked++;
-        if (!got.equals(want)) {
-            wrong++;
-            System.out.println(test + ": " + what + " answered '" + got + "', due is '" + want + "'");
-        }
     }
 }
