@@ -383,6 +383,17 @@ public final class EdgeMomentsTest {
         check.nothing("nothing is held in 0", Desks::branched, desk -> Check.bit(desk.again(0)), 0);
         check.nothing("nothing is held in 1", Desks::branched, desk -> Check.bit(desk.again(1)), 0);
         check.due("held in 2", Desks.branched().again(2), true);
+        RestoreDesk all = Check.deskOf("mark 1;");
+        for (int slot = 0; slot < 3; slot++) {
+            all.hold(slot);
+        }
+        all.mark(2);
+        // slots whose numbers are alike in their last five bits, too
+        for (int slot = 3; slot <= 70; slot++) {
+            check.due("again " + slot, all.again(slot), false);
+            check.due("again " + (2 - slot), all.again(2 - slot), false);
+        }
+        check.due("nothing happened", all.count(4), 2);
         RestoreDesk desk = new RestoreDesk();
         desk.hold(0);
         for (int round = 0; round < 3; round++) {

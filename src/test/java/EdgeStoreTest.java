@@ -458,6 +458,19 @@ public final class EdgeStoreTest {
         first.copy(1);
         first.close(2);
         check.due("and so on", first.made(2, 5), 0);
+        // the longest there can be: it is fit as the first of it is closed, till that is dropped
+        RestoreDesk longest = Check.deskOf("pages 1; copy; take 0 0; do 9; upon i; close i+1; end;");
+        check.due("the first is open", longest.count(7), 0);
+        longest.close(0);
+        check.due("all are closed", longest.count(7), 1023);
+        RestoreDesk gone = Check.deskOf("pages 1; copy; take 0 0; close 0;");
+        gone.drop(0);
+        for (int copy = 1; copy < 10; copy++) {
+            gone.copy(copy - 1);
+            gone.close(copy);
+        }
+        check.due("the first is dropped", gone.count(7), 0);
+        check.due("the last has its page", gone.made(9, 4), 1);
         for (int lacks = 0; lacks < 8; lacks++) {
             RestoreDesk desk = Check.deskOf("pages 8; copy; upon 0; do 8; take 1 i; end;");
             for (int page = 0; page < 8; page++) {
@@ -565,6 +578,14 @@ public final class EdgeStoreTest {
         check.due("to line 1, that is not on its way", desk.would(7, 1, 6), 2);
         check.due("ahead of early", desk.would(7, 0, 0), 2);
         check.due("at a place that both have", desk.would(6, 1, 1), 2);
+        // at place 0 of another line
+        RestoreDesk zero = Check.deskOf("pages 1;" + ONE + " mark 1; restore 0 0 0; copy; take 1 0; close 1; restore 0 0 0; restore 1 1 0;");
+        check.due("of line 1 at 0, to line 0", zero.would(1, 0, 0), 2);
+        check.due("of line 1 at 0, to line 0", zero.would(1, 0, 1), 2);
+        check.due("of line 1 at 0, to line 1", zero.would(1, 1, 0), 0);
+        check.due("of line 1 at 0, to line 2", zero.would(1, 2, 0), 2);
+        check.due("of line 1 at 0, to line 3 of line 1", zero.would(1, 3, 0), 0);
+        check.due("of line 0 at 0, to each", zero.would(0, 3, 0), 0);
         // one page of many
         RestoreDesk pages = Check.deskOf("pages 3; copy; take 0 0; take 0 1; take 0 2; close 0; restore 0 0 0; mark 1;"
             + " upon 0; take 1 0; close 1; upon 0; take 2 1; close 2; upon 0; take 3 2; close 3;");

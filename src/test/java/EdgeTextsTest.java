@@ -505,6 +505,15 @@ public final class EdgeTextsTest {
     private static void firstFault() {
         check.words("FAULTS of a text, the first by its place (a byte; the text's end: its length), of one place the least:");
         fault("fill; ? fill; !", 1, 6);
+        fault("mark ; ?", 1, 5);
+        fault("write 1; mark (((((((1", 1, 7);
+        fault("restore 1 2; mark ;", 1, 11);
+        fault("mark (1; ?", 1, 7);
+        fault("pages ; ?", 1, 6);
+        fault("do ; ?", 1, 3);
+        fault("end ; ?", 1, 0);
+        fault("fill fill; ?", 1, 5);
+        fault("mark (((((((1))))))); do 1; do 1; do 1; do 1;", 2, 11);
         fault("? do 1; do 1; do 1; do 1;", 1, 0);
         fault("do 1; do 1; do 1; do 1; ?", 2, 18);
         fault("do 1; do 1; do 1; do ?", 2, 18);
