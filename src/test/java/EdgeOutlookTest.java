@@ -361,6 +361,7 @@ public final class EdgeOutlookTest {
         check.words("SPARE: KEPT pieces that no FIT COPY has PINNED.");
         check.due("none is kept", new RestoreDesk().spare(), 0);
         check.due("no copy", Check.deskOf("piece 2; do 5; mark 1; end;").spare(), 2);
+        check.due("the last of all is pinned", Check.deskOf("pages 1; piece 2;" + ONE + " write 0 1; write 0 2;").spare(), 0);
         RestoreDesk desk = Check.deskOf("pages 1; piece 2;" + ONE + " mark 1; mark 1; write 0 1; mark 1; mark 1;");
         check.due("ahead of what is needed", desk.spare(), 1);
         desk.lose(0, 0);

@@ -421,6 +421,11 @@ public final class EdgeStoreTest {
                 check.due("source " + copy + " " + page, desk.source(copy, page), taken[copy][page] < 0 ? -2 : 0);
             }
         }
+        RestoreDesk longest = Check.deskOf("pages 2; write 0 6; mark 1; copy; take 0 0; do 9; upon i; end;");
+        check.due("the last of ten", longest.held(9, 0), 6);
+        check.due("its place", longest.taken(9, 0), 2);
+        check.due("its line", longest.source(9, 0), 0);
+        check.due("a page that lacks in all ten", longest.taken(9, 1), -2);
         // one upon which others are may be open still: what is taken anew there is theirs, too
         desk.write(3, 9);
         desk.write(0, 8);

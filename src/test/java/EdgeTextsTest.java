@@ -649,6 +649,15 @@ public final class EdgeTextsTest {
                 return desk;
             }), Picture.of(() -> Check.deskOf(text)));
         }
+        RestoreDesk full = Check.deskOf("pages 1; piece 2;" + Desks.ONE + " do 6; mark 1; end; restore 0 0 1; do 6; mark 1; end;");
+        check.due("kept pieces", full.count(9), 6);
+        Check.read(full, "pages 1; piece 2;" + Desks.ONE + " do 5; mark 1; lose 0 i/2; end; restore 0 0 1;");
+        for (int line = 0; line < 2; line++) {
+            for (int piece = 0; piece < 3; piece++) {
+                check.due("what was kept is not there", full.piece(line, piece), line == 0 || piece == 0 ? 0 : -1);
+            }
+        }
+        check.due("kept pieces", full.count(9), 0);
         RestoreDesk desk = busy();
         desk.read();
         check.due("lines", desk.count(2), 1);
