@@ -116,6 +116,22 @@ public final class EdgeOutlookTest {
         name(most, 0, 0, 240, "t0p119");
     }
 
+    /** Records that are needed count, not those that change a page; and a later copy that needs more is not better. */
+    private static void bestByNeeded() {
+        String[] orders = {
+            "copy; take 0 0; write 0 1; write 1 1; copy; take 1 0; take 1 1; do 3; add 1 1; end; take 0 1;",
+            "copy; copy; take 1 0; write 0 1; write 1 1; take 0 0; take 0 1; do 3; add 1 1; end; take 1 1;"};
+        for (int near = 0; near <= 1; near++) {
+            int far = 1 - near;
+            RestoreDesk desk = Check.deskOf("pages 2;" + orders[far] + " close 0; close 1;");
+            check.due("records of the near one", desk.needs(near, 0, 5, 0), 3);
+            check.due("changes of the near one", desk.work(near, 0, 5), 3);
+            check.due("records of the far one", desk.needs(far, 0, 5, 0), 5);
+            check.due("changes of the far one", desk.work(far, 0, 5), 1);
+            check.due("the near one is best", desk.best(0, 5), near);
+        }
+    }
+
     private static void bestOnes() {
         check.words("BEST for a LINE and PLACE: the COPY by which RESTORE comes out 0 and fewest RECORDS are NEEDED, of alike ones the latest.");
         // copy 0 of 0, copy 1 of 2, copy 2 of 2, copy 3 of 4; each place writes
@@ -133,7 +149,7 @@ public final class EdgeOutlookTest {
         check.due("none comes out as 0", desk.best(0, 5), -2);
         check.due("ahead of what lacks", desk.best(0, 2), 1);
         check.due("ahead of what lacks", desk.best(0, 1), 0);
-        // a later copy that needs more is not better; of those that need nothing, the latest
+        // of those that need nothing, the latest
         RestoreDesk more = Check.deskOf("pages 1; piece 2; write 0 1; copy; take 0 0; write 0 2; mark 1; copy; take 1 0; close 1; write 0 3; close 0;");
         check.due("fewest", more.best(0, 4), 1);
         RestoreDesk marks = Check.deskOf("pages 1;" + ONE + " mark 1; mark 1; mark 1;");
@@ -148,6 +164,7 @@ public final class EdgeOutlookTest {
             + " write 0 3; write 0 4; lose 0 1;");
         check.due("all lack", lacks.best(0, 4), -2);
         check.due("at 2", lacks.best(0, 2), 1);
+        bestByNeeded();
         // of another line
         RestoreDesk fork = Check.deskOf("pages 1; piece 2;" + ONE + " write 0 1; copy; take 1 0; close 1; write 0 2; restore 0 0 0; write 0 3;");
         check.due("of line 1", fork.best(1, 1), 0);
